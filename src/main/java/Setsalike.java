@@ -382,7 +382,7 @@ public final class Setsalike {
     }
 
     private static void needKey(int key) {
-        if (!isKey(key)) {
+        if (key < 0 || key >= KEYS) {
             throw new IllegalArgumentException("a KEY is 0 to 29");
         }
     }
@@ -609,10 +609,6 @@ public final class Setsalike {
 
     // ---- keys and things
 
-    private static boolean isKey(int key) {
-        return key >= 0 && key < KEYS;
-    }
-
     private static int placeOf(int key) {
         return key % PLACES;
     }
@@ -664,7 +660,7 @@ public final class Setsalike {
         }
 
         boolean includes(int key) {
-            return isKey(key) && (bits >> key & 1) != 0;
+            return key >= 0 && key < KEYS && (bits >> key & 1) != 0;
         }
 
         boolean includesAll(Things other) {
@@ -680,7 +676,8 @@ public final class Setsalike {
         }
 
         int markOf(int key) {
-            return includes(key) && key < markByKey.length ? markByKey[key] : NONE;
+            boolean there = key >= 0 && key < markByKey.length && (bits >> key & 1) != 0;
+            return there ? markByKey[key] : NONE;
         }
 
         int spotOf(int key) {
@@ -693,7 +690,10 @@ public final class Setsalike {
         }
 
         boolean come(int key, int mark) {
-            if (!isKey(key) || includes(key) || count < 0 || count >= line.length) {
+            if (key < 0 || key >= markByKey.length || count < 0 || count >= line.length) {
+                return false;
+            }
+            if ((bits >> key & 1) != 0) {
                 return false;
             }
             int spot = count;

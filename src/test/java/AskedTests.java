@@ -153,6 +153,10 @@ public final class AskedTests {
         Checks.due("27: not", false, x.holdsRow(5));
         x.row(3, 3);
         Checks.due("27: not all", false, x.holdsRow(0));
+        x.clearRow();
+        x.row(3, 3);
+        x.row(2, 2);
+        Checks.due("27: all but the first one", false, x.holdsRow(0));
     }
 
     private static void isApart() {

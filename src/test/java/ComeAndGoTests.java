@@ -96,6 +96,12 @@ public final class ComeAndGoTests {
         Checks.due("4: has", false, x.has(0, 5));
         Checks.due("4: others stay", "7.7 8.8", x.text(4));
         Checks.due("4: clear 4", 2, x.clear(4));
+        for (int key = 0; key < 30; key++) {
+            x.put(key % 2 * 4, key, 1);
+        }
+        Checks.due("4: clear of half of all KEYS", 15, x.clear(0));
+        Checks.due("4: clear of the other half", 15, x.clear(4));
+        Checks.due("4: nothing is left", "", x.text(0) + x.text(4));
         Checks.due("4: clear 4 again", 0, x.clear(4));
         x.walk(0, 0);
         x.walk(1, 1);

@@ -87,9 +87,12 @@ public final class FamilyAndHouseTests {
         Checks.due("44: HASHES", 8 + 0 + 7, x.family(1));
         Checks.due("44: KEYS", 5, x.family(2));
         x.clear(0);
-        x.clear(4);
         Checks.due("44: HASHES", 15, x.family(1));
         Checks.due("44: KEYS", 5, x.family(2));
+        x.remove(4);
+        Checks.due("44: sets when one went", 2, x.family(0));
+        Checks.due("44: HASHES when one went", 8, x.family(1));
+        Checks.due("44: KEYS when one went", 3, x.family(2));
         Checks.idle(x, "44: family(-1)", "throws IllegalArgumentException", () -> x.family(-1));
         Checks.idle(x, "44: family(3)", "throws IllegalArgumentException", () -> x.family(3));
     }
@@ -198,6 +201,7 @@ public final class FamilyAndHouseTests {
         Setsalike x = Checks.with(0, 5, 29, 3);
         Checks.fill(x, 3, 3, 5);
         Checks.fill(x, 4, 29, 5, 3);
+        Checks.fill(x, 5, 17);
         x.row(11, 2);
         x.row(3, 0);
         x.bring(0);
