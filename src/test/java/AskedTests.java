@@ -182,24 +182,21 @@ public final class AskedTests {
     }
 
     private static void withNothing() {
-        Setsalike x = Checks.with(0, 1, 2);
-        x.walk(0, 0);
         for (int set = 0; set < 6; set++) {
             final int s = set;
             for (int what = 0; what < 4; what++) {
                 final int w = what;
-                Checks.idle(x, "31: withNothing", -9, () -> x.withNothing(s, w));
+                Twins.idle("31: withNothing", Twins::busy, -9, x -> x.withNothing(s, w));
             }
-            Checks.idle(x, "31: withNothing", "throws IllegalArgumentException", () -> x.withNothing(s, -1));
-            Checks.idle(x, "31: withNothing", "throws IllegalArgumentException", () -> x.withNothing(s, 4));
+            Twins.idle("31: withNothing", Twins::busy, Twins.ARGUMENT, x -> x.withNothing(s, -1));
+            Twins.idle("31: withNothing", Twins::busy, Twins.ARGUMENT, x -> x.withNothing(s, 4));
         }
-        Checks.noSuch("31: withNothing", () -> x.withNothing(6, 4));
     }
 
     private static void seen() {
-        Setsalike x = Checks.with(0, 9, 14, 3);
-        Checks.fill(x, 4, 9, 14, 3);
         for (int set = 0; set < 6; set++) {
+            Setsalike x = Checks.with(0, 9, 14, 3);
+            Checks.fill(x, 4, 9, 14, 3);
             final int s = set;
             boolean full = set == 0 || set == 4;
             int[] due = {full ? 3 : 0, full ? 11 : 0, 1, 1, full ? 26 : 0};
@@ -210,14 +207,13 @@ public final class AskedTests {
             Checks.bad("32: seen", () -> x.seen(s, -1));
             Checks.bad("32: seen", () -> x.seen(s, 5));
         }
-        Checks.noSuch("32: seen", () -> x.seen(-1, 5));
     }
 
     private static void meddle() {
-        Setsalike x = Checks.with(0, 0, 5);
-        Checks.fill(x, 4, 7);
-        x.walk(0, 0);
         for (int set = 0; set < 6; set++) {
+            Setsalike x = Checks.with(0, 0, 5);
+            Checks.fill(x, 4, 7);
+            x.walk(0, 0);
             final int s = set;
             for (int what = 0; what < 5; what++) {
                 final int w = what;
@@ -227,7 +223,6 @@ public final class AskedTests {
             Checks.idle(x, "34: meddle", "throws IllegalArgumentException", () -> x.meddle(s, -1));
             Checks.idle(x, "34: meddle", "throws IllegalArgumentException", () -> x.meddle(s, 5));
         }
-        Checks.noSuch("34: meddle", () -> x.meddle(6, 5));
     }
 
     private static void wrongSets() {

@@ -84,6 +84,45 @@ final class Checks {
         return page.append(x.rowText()).toString();
     }
 
+    /** The document's sum, made of what the face's other methods answer. */
+    static long digestOf(Setsalike x) {
+        long d = 7781;
+        for (int what = 0; what < 5; what++) {
+            d = d * 31 + x.house(what);
+        }
+        for (int set = 0; set < 6; set++) {
+            d = d * 31 + x.size(set);
+            d = d * 31 + x.hash(set);
+            d = d * 31 + x.sum(set);
+            d = signs(d, x.text(set));
+        }
+        for (int set = 0; set < 6; set++) {
+            for (int other = 0; other < 6; other++) {
+                d = d * 31 + (x.isAlike(set, other) ? 1 : 0);
+                d = d * 31 + (x.holds(set, other) ? 1 : 0);
+            }
+        }
+        for (int walk = 0; walk < 2; walk++) {
+            d = d * 31 + x.ofWalk(walk);
+        }
+        for (int what = 0; what < 3; what++) {
+            d = d * 31 + x.family(what);
+        }
+        for (int set = 0; set < 6; set++) {
+            d = d * 31 + (x.isIn(set) ? 1 : 0);
+        }
+        d = signs(d, x.rowText());
+        return d * 31 + (x.isSound() ? 1 : 0);
+    }
+
+    private static long signs(long d, String text) {
+        long mixed = d;
+        for (int i = 0; i < text.length(); i++) {
+            mixed = mixed * 31 + text.charAt(i);
+        }
+        return mixed;
+    }
+
     /** The call answers as is due, and changes nothing. */
     static void idle(Setsalike x, String what, Object want, Call call) {
         String before = state(x);

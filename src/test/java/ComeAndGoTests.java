@@ -166,17 +166,15 @@ public final class ComeAndGoTests {
     }
 
     private static void wrongConditions() {
-        Setsalike x = Checks.with(0, 1, 2);
-        x.walk(0, 0);
         int[][] wrong = {{-1, 0}, {4, 0}, {0, -1}, {0, 30}, {2, 30}, {3, Integer.MIN_VALUE}};
         for (int[] w : wrong) {
-            String bad = "throws IllegalArgumentException";
-            Checks.idle(x, "5: dropIf", bad, () -> x.dropIf(0, w[0], w[1]));
-            Checks.idle(x, "6: pick", bad, () -> x.pick(0, w[0], w[1]));
-            Checks.idle(x, "22: many", bad, () -> x.many(0, w[0], w[1]));
+            Twins.idle("5: dropIf", Twins::busy, Twins.ARGUMENT, x -> x.dropIf(0, w[0], w[1]));
+            Twins.idle("6: pick", Twins::busy, Twins.ARGUMENT, x -> x.pick(0, w[0], w[1]));
+            Twins.idle("22: many", Twins::busy, Twins.ARGUMENT, x -> x.many(0, w[0], w[1]));
         }
         for (int set = -1; set < 7; set += 7) {
             final int s = set;
+            Setsalike x = Checks.with(0, 1, 2);
             Checks.noSuch("5: dropIf", () -> x.dropIf(s, 4, 30));
             Checks.noSuch("6: pick", () -> x.pick(s, 4, 30));
             Checks.noSuch("22: many", () -> x.many(s, 4, 30));

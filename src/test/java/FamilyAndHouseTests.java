@@ -145,55 +145,16 @@ public final class FamilyAndHouseTests {
         Checks.fill(x, 4, 1, 2, 3);
         x.walk(0, 0);
         x.next(0);
-        Checks.idle(x, "47: of a full one", true, x::isSound);
+        Checks.idle(x, "47: of some", true, x::isSound);
         for (int key = 0; key < 30; key++) {
             Checks.fill(x, key % 6, 29 - key, key);
-            Checks.idle(x, "47: isSound", true, x::isSound);
+            Checks.due("47: isSound", true, x.isSound());
         }
-    }
-
-    /** The document's sum, made of what the face's other methods answer. */
-    private static long digestOf(Setsalike x) {
-        long d = 7781;
-        for (int what = 0; what < 5; what++) {
-            d = d * 31 + x.house(what);
-        }
-        for (int set = 0; set < 6; set++) {
-            d = d * 31 + x.size(set);
-            d = d * 31 + x.hash(set);
-            d = d * 31 + x.sum(set);
-            d = signs(d, x.text(set));
-        }
-        for (int set = 0; set < 6; set++) {
-            for (int other = 0; other < 6; other++) {
-                d = d * 31 + (x.isAlike(set, other) ? 1 : 0);
-                d = d * 31 + (x.holds(set, other) ? 1 : 0);
-            }
-        }
-        for (int walk = 0; walk < 2; walk++) {
-            d = d * 31 + x.ofWalk(walk);
-        }
-        for (int what = 0; what < 3; what++) {
-            d = d * 31 + x.family(what);
-        }
-        for (int set = 0; set < 6; set++) {
-            d = d * 31 + (x.isIn(set) ? 1 : 0);
-        }
-        d = signs(d, x.rowText());
-        return d * 31 + (x.isSound() ? 1 : 0);
-    }
-
-    private static long signs(long d, String text) {
-        long mixed = d;
-        for (int i = 0; i < text.length(); i++) {
-            mixed = mixed * 31 + text.charAt(i);
-        }
-        return mixed;
     }
 
     private static void digestOfNew() {
         Setsalike x = new Setsalike();
-        Checks.due("48: of a new one", digestOf(x), x.digest());
+        Checks.due("48: of a new one", Checks.digestOf(x), x.digest());
         Checks.due("48: again", x.digest(), x.digest());
     }
 
@@ -207,7 +168,7 @@ public final class FamilyAndHouseTests {
         x.bring(0);
         x.walk(1, 0);
         x.knock();
-        Checks.idle(x, "48: of some", digestOf(x), x::digest);
+        Checks.idle(x, "48: of some", Checks.digestOf(x), x::digest);
     }
 
     private static void digestTellsApart() {
@@ -221,13 +182,12 @@ public final class FamilyAndHouseTests {
     }
 
     private static void wrong() {
-        Setsalike x = Checks.with(0, 5);
-        x.bring(0);
         for (int set : new int[] {-1, 6, Integer.MAX_VALUE, Integer.MIN_VALUE}) {
-            Checks.idle(x, "41: bring", "throws IndexOutOfBoundsException", () -> x.bring(set));
-            Checks.idle(x, "42: remove", "throws IndexOutOfBoundsException", () -> x.remove(set));
-            Checks.idle(x, "43: isIn", "throws IndexOutOfBoundsException", () -> x.isIn(set));
+            Twins.idle("41: bring", Twins::busy, Twins.INDEX, x -> x.bring(set));
+            Twins.idle("42: remove", Twins::busy, Twins.INDEX, x -> x.remove(set));
+            Twins.idle("43: isIn", Twins::busy, Twins.INDEX, x -> x.isIn(set));
         }
+        Setsalike x = Checks.with(0, 5);
         for (int what : new int[] {-1, 5, Integer.MAX_VALUE, Integer.MIN_VALUE}) {
             Checks.bad("44: family", () -> x.family(what));
             Checks.bad("45: house", () -> x.house(what));

@@ -6,7 +6,8 @@ import java.util.Comparator;
 /** Long runs of calls, the same on Setsalike and on Model; all answers, exceptions too, have to be the same. */
 public final class LongRunsTests {
     private static final int RUNS = 1500;
-    private static final int CALLS = 512;
+    // The digest at the end is the 512th call, behind which nothing is promised.
+    private static final int CALLS = 511;
     private static final int[] ODD = {-1, 30, 31, 6, 10, Integer.MAX_VALUE, Integer.MIN_VALUE};
     // These build something up, so that the others find something.
     private static final String OFTEN = "put put put put put walk walk next next next takeAway join copy row bring";

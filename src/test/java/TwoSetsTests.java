@@ -157,23 +157,22 @@ public final class TwoSetsTests {
     }
 
     private static void wrongSets(String name, Pair pair, boolean kindsCount) {
-        Setsalike x = some();
         int[][] none = {{-1, 0}, {6, 0}, {0, -1}, {0, 6}, {6, 6}, {-1, -1}, {3, 6}, {Integer.MIN_VALUE, 1}};
         for (int[] n : none) {
-            Checks.idle(x, name, "throws IndexOutOfBoundsException", () -> pair.answer(x, n[0], n[1]));
+            Twins.idle(name, TwoSetsTests::some, Twins.INDEX, x -> pair.answer(x, n[0], n[1]));
         }
         for (int set = 0; set < 6; set++) {
             final int s = set;
-            Checks.idle(x, name, "throws IllegalArgumentException", () -> pair.answer(x, s, s));
+            Twins.idle(name, TwoSetsTests::some, Twins.ARGUMENT, x -> pair.answer(x, s, s));
         }
         for (int i = 0; kindsCount && i < 9; i++) {
             final int linked = i % 3;
             final int plain = 3 + i / 3;
-            Checks.idle(x, name, "throws IllegalStateException", () -> pair.answer(x, linked, plain));
+            Twins.idle(name, TwoSetsTests::some, Twins.STATE, x -> pair.answer(x, linked, plain));
         }
         if (name.endsWith("swap")) {
-            Checks.idle(x, name, "throws IllegalStateException", () -> pair.answer(x, 3, 0));
-            Checks.idle(x, name, "throws IllegalStateException", () -> pair.answer(x, 5, 2));
+            Twins.idle(name, TwoSetsTests::some, Twins.STATE, x -> pair.answer(x, 3, 0));
+            Twins.idle(name, TwoSetsTests::some, Twins.STATE, x -> pair.answer(x, 5, 2));
         }
     }
 }
