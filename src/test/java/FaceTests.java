@@ -32,6 +32,7 @@ public final class FaceTests {
     public static void main(String[] args) {
         methods();
         others();
+        inside();
         Checks.finish();
     }
 
@@ -79,5 +80,19 @@ public final class FaceTests {
             Checks.due(f + " is final or its object's own", true,
                     Modifier.isFinal(f.getModifiers()) || !Modifier.isStatic(f.getModifiers()));
         }
+    }
+
+    private static void inside() {
+        for (Class<?> c : Setsalike.class.getDeclaredClasses()) {
+            int modifiers = c.getModifiers();
+            Checks.due(c + " is static", true, Modifier.isStatic(modifiers));
+            Checks.due(c + " is seen from outside", false,
+                    Modifier.isPublic(modifiers) || Modifier.isProtected(modifiers));
+            for (Field f : c.getDeclaredFields()) {
+                Checks.due(f + " is its object's own", false, Modifier.isStatic(f.getModifiers()));
+            }
+        }
+        Checks.due("it extends nothing", Object.class, Setsalike.class.getSuperclass());
+        Checks.due("it implements nothing", 0, Setsalike.class.getInterfaces().length);
     }
 }

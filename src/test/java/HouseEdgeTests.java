@@ -13,6 +13,8 @@ public final class HouseEdgeTests {
         digests();
         soundWhatever();
         unsound();
+        unsoundByOneTwice();
+        unsoundByTwoOfOnePlace();
         Checks.finish();
     }
 
@@ -177,6 +179,32 @@ public final class HouseEdgeTests {
             Checks.due("47: has() tells another one", false, x.isSound());
             Checks.due("48: which the digest tells", Checks.digestOf(x), x.digest());
             bits.setInt(thingsOf(x, set), 1 << 8 | 1 << 3);
+            Checks.due("47: in order again", true, x.isSound());
+        }
+    }
+
+    private static void unsoundByOneTwice() throws ReflectiveOperationException {
+        for (int set = 0; set < 6; set++) {
+            Setsalike x = new Setsalike();
+            Checks.fill(x, set, 8, 3);
+            int[] line = (int[]) fieldOf(x, set, "line").get(thingsOf(x, set));
+            line[2] = line[0];
+            fieldOf(x, set, "count").setInt(thingsOf(x, set), 3);
+            Checks.due("47: size() tells one more than has()", false, x.isSound());
+            fieldOf(x, set, "count").setInt(thingsOf(x, set), 2);
+            Checks.due("47: in order again", true, x.isSound());
+        }
+    }
+
+    /** size() and hash() are as has() tells them; only what a copy of its own has is something else. */
+    private static void unsoundByTwoOfOnePlace() throws ReflectiveOperationException {
+        for (int set = 0; set < 6; set++) {
+            Setsalike x = new Setsalike();
+            Checks.fill(x, set, 8, 4);
+            Field bits = fieldOf(x, set, "bits");
+            bits.setInt(thingsOf(x, set), 1 << 13 | 1 << 4);
+            Checks.due("47: less a copy of its own it is not empty", false, x.isSound());
+            bits.setInt(thingsOf(x, set), 1 << 8 | 1 << 4);
             Checks.due("47: in order again", true, x.isSound());
         }
     }
